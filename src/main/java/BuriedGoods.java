@@ -33,6 +33,8 @@ public final class BuriedGoods {
     private static final int ODDS_FAR = 6;
     private static final int GUARD_PRIZE = 5;
     private static final long ALL_PARTS = 1000000000L;
+    // More than any way or game comes to.
+    private static final int BEYOND = 1000000;
 
     // What a refused act is counted under.
     private static final int NO_SUCH = 0;
@@ -730,7 +732,7 @@ public final class BuriedGoods {
             return HIDDEN;
         }
         int guard = 0;
-        int least = Integer.MAX_VALUE;
+        int least = BEYOND;
         for (int g = 0; g <= 100; g++) {
             int greater = Math.max(thiefMean(one, other, 0, g), thiefMean(one, other, 1, g));
             if (greater < least) {
@@ -1848,8 +1850,6 @@ public final class BuriedGoods {
 
     /** The shortest way from plot 0 by all stops and back: for each set of stops and its last one the fewest steps. */
     private static final class Spade {
-        private static final int FARTHEST = 1000000;
-
         private final int[] stops = new int[PLACES];
         private final int[] fewest = new int[PLACES << PLACES];
         private int length = 0;
@@ -1877,7 +1877,7 @@ public final class BuriedGoods {
                     }
                 }
             }
-            int best = FARTHEST;
+            int best = BEYOND;
             for (int last = 0; last < length; last++) {
                 int round = pick(fewest, (sets - 1) * PLACES + last) + land.steps(pick(stops, last), 0);
                 best = Math.min(best, round);
@@ -1891,7 +1891,7 @@ public final class BuriedGoods {
             if (others == 0) {
                 return land.steps(0, target);
             }
-            int best = FARTHEST;
+            int best = BEYOND;
             for (int from = 0; from < length; from++) {
                 if ((others >> from & 1) == 1) {
                     int steps = pick(fewest, others * PLACES + from) + land.steps(pick(stops, from), target);

@@ -79,6 +79,8 @@ public final class ActsTest {
         law(land, "y:9999*9999-9999*9000+4000/1000", 24, 34, 44, 54, 60);
         law(land, "y:[9999*9999+1]/[500*400]", 25, 35, 45, 55, 60);
         law(land, "y:[0-9999*9999-1]/[500*400]", 15, 25, 35, 45, 60);
+        law(land, "y:9999*9999-999*1000-999", 21, 31, 41, 51, 60);
+        law(land, "y:0-9999*9999+999*1000+999", 19, 29, 39, 49, 60);
         law(land, "y:12-2*4-3", 21, 31, 41, 51, 60);
         law(land, "y:48/4/3*2", 28, 38, 48, 58, 60);
         BuriedGoods x = Check.field(land, "y:t-9");
@@ -109,7 +111,9 @@ public final class ActsTest {
         Check.due("40 more", x.months(40), -1);
         Check.due("years, 40 more", x.years(40, 1L), -1);
         Check.same("nothing has gone by", Check.seen(x), before);
-        Check.due("39 more", x.months(39), 999);
+        Check.due("39 more by draws", x.years(39, 1L), 999);
+        x.undo();
+        Check.due("the last one", x.months(1), 999);
         Check.due("one more", x.months(1), -1);
         Check.due("years, one more", x.years(1, 1L), -1);
         Check.status(x, 0, 2, 0, 0, 2);

@@ -1,6 +1,9 @@
 import java.util.NoSuchElementException;
 
-/** What the tests share: comparing answers, feeding texts, and a fingerprint of all that can be asked. */
+/**
+ * What the tests share: comparing answers, feeding texts, and a fingerprint of all that can be asked.
+ * Fingerprints take some runs beyond 512 calls, of which nothing is promised: this class counts no calls.
+ */
 final class Check {
     private static int wrong = 0;
     private static int done = 0;

@@ -217,6 +217,8 @@ public final class FutureTest {
         x.seen(0, 0, 3, 11, true);
         Check.due("five may be", x.damps(0, -1), 5);
         Check.due("still behind the fifth", x.ask(0, 0), 5);
+        BuriedGoods late = Check.field("sf0;t", "y:m=23?d");
+        Check.due("behind the last", late.ask(0, 0), 24);
         Check.law(x, "y:0");
         x.law(3);
         Check.due("no such fits now", x.ask(0, 0), -1);

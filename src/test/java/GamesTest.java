@@ -64,6 +64,9 @@ public final class GamesTest {
         Check.due("alike worth", x.safe(0, 3, 1), 250);
         Check.due("the other way", x.safe(1, 0, 0), 63);
         Check.due("the other way", x.safe(1, 0, 1), 445);
+        BuriedGoods even = Check.field("tp0v1;tp1v90");
+        Check.due("the least of several", even.safe(0, 1, 0), 5);
+        Check.due("by both the same", even.safe(0, 1, 1), 70);
         int[][] wrong = {{0, 0, 0}, {0, 2, 0}, {2, 0, 1}, {0, 4, 0}, {0, 1, 2}, {0, 1, -1}, {-1, 1, 0}, {1, 8, 0}};
         for (int[] c : wrong) {
             Check.due("not safe", x.safe(c[0], c[1], c[2]), HIDDEN);
