@@ -20,6 +20,7 @@ public final class BuriedGoods {
     private static final int MOST_COINS = 999;
     private static final int MOST_GIVEN = 50;
     private static final int MOST_VALUE = 200;
+    private static final int MOST_GAIN = 9;
     private static final int MOST_LAIN = 99;
     private static final int MOST_BOUGHT = 30;
     private static final int MOST_STUFF = 5;
@@ -389,17 +390,17 @@ public final class BuriedGoods {
 
     private void grow(int n) {
         for (int i = 0; i < n; i++) {
-            int worth = Math.max(-9, Math.min(9, worthOfGrowth()));
-            growth.value = Math.max(0, Math.min(MOST_VALUE, growth.value + worth));
+            growth.value = Math.max(0, Math.min(MOST_VALUE, growth.value + gainOfGrowth()));
             growth.lain = lainAfter(growth.lain, growth.month);
             growth.month++;
         }
     }
 
-    private int worthOfGrowth() {
+    /** The document holds within 9 what a law makes of a thing; what it becomes without one stands as it is. */
+    private int gainOfGrowth() {
         Law law = lawAt(holding);
         if (law != null) {
-            return law.worth(growth);
+            return Math.max(-MOST_GAIN, Math.min(MOST_GAIN, law.worth(growth)));
         }
         if (growth.lain >= land.year) {
             return land.year > 0 ? -(growth.lain / land.year) : 0;

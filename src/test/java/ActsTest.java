@@ -44,10 +44,10 @@ public final class ActsTest {
     }
 
     private static void monthsWithinBounds() {
-        BuriedGoods x = Check.field("s y1f0; tp0v99m99; tp1v9m8; tp2v5m9");
+        BuriedGoods x = Check.field("s y1f0; tp0v99m98; tp1v9m8; tp2v5m9; tp3v50m30");
         x.months(1);
-        int[][] want = {{90, 99}, {1, 9}, {0, 10}};
-        things("held within 9", x, want);
+        int[][] want = {{1, 99}, {1, 9}, {0, 10}, {20, 31}};
+        things("without a law by all the years", x, want);
         x = Check.field("s f9; tp0m98; tp1m97; tp2m99", "y:9999*9999");
         x.months(1);
         want = new int[][] {{19, 99}, {19, 99}, {19, 99}};
