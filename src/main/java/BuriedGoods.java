@@ -396,12 +396,14 @@ public final class BuriedGoods {
         }
     }
 
-    /** The document holds within 9 what a law makes of a thing; what it becomes without one stands as it is. */
+    /** Held within 9 with a law and without one: a thing may lie ten whole years and more. */
     private int gainOfGrowth() {
         Law law = lawAt(holding);
-        if (law != null) {
-            return Math.max(-MOST_GAIN, Math.min(MOST_GAIN, law.worth(growth)));
-        }
+        int gain = law != null ? law.worth(growth) : gainWithoutLaw();
+        return Math.max(-MOST_GAIN, Math.min(MOST_GAIN, gain));
+    }
+
+    private int gainWithoutLaw() {
         if (growth.lain >= land.year) {
             return land.year > 0 ? -(growth.lain / land.year) : 0;
         }

@@ -46,8 +46,17 @@ public final class ActsTest {
     private static void monthsWithinBounds() {
         BuriedGoods x = Check.field("s y1f0; tp0v99m98; tp1v9m8; tp2v5m9; tp3v50m30");
         x.months(1);
-        int[][] want = {{1, 99}, {1, 9}, {0, 10}, {20, 31}};
-        things("without a law by all the years", x, want);
+        int[][] want = {{90, 99}, {1, 9}, {0, 10}, {41, 31}};
+        things("without a law by the years, 9 at most", x, want);
+        x = Check.field("s y2f0; tp0v50m17; tp1v50m19; tp2v50m20; tp3v50m21; tp4v50m22");
+        x.months(1);
+        want = new int[][] {{42, 18}, {41, 20}, {41, 21}, {41, 22}, {41, 23}};
+        things("by whole years, 9 at most", x, want);
+        Check.due("the log, too", x.log(0, 0), 42 + 4 * 41);
+        BuriedGoods y = Check.field("s y1f0; tp0v90m20");
+        y.moles(0);
+        y.years(2, 5);
+        Check.due("by years, 9 at most", Check.thing(y, 0, 0), 72);
         x = Check.field("s f9; tp0m98; tp1m97; tp2m99", "y:9999*9999");
         x.months(1);
         want = new int[][] {{19, 99}, {19, 99}, {19, 99}};

@@ -10,6 +10,7 @@ public final class FutureTest {
         way();
         seeing();
         asking();
+        heldWithoutLaw();
         Check.finish("FutureTest");
     }
 
@@ -226,5 +227,25 @@ public final class FutureTest {
         Check.due("no such row", x.ask(2, 0), -1);
         Check.due("no such thing", x.ask(0, 2), -1);
         Check.due("no such thing", x.ask(0, -1), -1);
+    }
+
+    /** A thing that lay ten years or more has 9 less a month, apart, too. */
+    private static void heldWithoutLaw() {
+        BuriedGoods x = Check.field("s w2h1y1f0; tp0v90m9; tp1v90m40; tv90m40");
+        int[] held = {90, 81, 72, 63, 54, 45, 36, 27, 18, 9, 0, 0};
+        for (int n = 0; n < held.length; n++) {
+            Check.due("grown behind nine years", x.grown(0, n), held[n]);
+            Check.due("grown behind forty", x.grown(1, n), held[n]);
+        }
+        Check.due("by odds", x.odds(1, 2, 72, 0), 1000000000);
+        Check.due("by odds", x.odds(1, 2, 73, 0), 0);
+        Check.due("by odds with a mole", x.odds(1, 1, 36, 100), 1000000000);
+        Check.due("best now", x.best(1, 1), 90);
+        Check.due("left out", x.laying(1, 0), 90);
+        x.seen(2, 0, 3, 63, true);
+        x.seen(2, 0, 3, 64, false);
+        Check.due("so it was seen", x.damps(0, -1), 10);
+        x.seen(2, 0, 10, 1, true);
+        Check.due("not so", x.damps(0, -1), 0);
     }
 }

@@ -118,12 +118,12 @@ final class Model {
         int worth;
         if (holds != NONE) {
             worth = (int) laws.get(holds).worth(new int[] {t.value, t.stuff, damp, t.lain, n, month % 12});
-            worth = worth > 9 ? 9 : worth < -9 ? -9 : worth;
         } else if (ripe(t)) {
             worth = 0 - t.lain / year;
         } else {
             worth = 1 + (damp > t.stuff ? 1 : 0);
         }
+        worth = worth > 9 ? 9 : worth < -9 ? -9 : worth;
         int value = t.value + worth;
         return value > 200 ? 200 : value < 0 ? 0 : value;
     }
