@@ -322,7 +322,7 @@ public final class ActsTest {
         Check.due("nothing to undo", x.undo(), -1);
         String[] before = new String[9];
         for (int i = 0; i < 9; i++) {
-            before[i] = Check.seen(x);
+            before[i] = Check.standing(x) + Check.thing(x, 1, 2) + " " + Check.thing(x, 1, 4);
             switch (i) {
                 case 0: x.months(1); break;
                 case 1: x.lay(1, 5); break;
@@ -338,7 +338,7 @@ public final class ActsTest {
         }
         for (int i = 8; i >= 0; i--) {
             Check.due("undo", x.undo(), i);
-            Check.same("undone " + i, Check.seen(x), before[i]);
+            Check.same("undone " + i, Check.standing(x) + Check.thing(x, 1, 2) + " " + Check.thing(x, 1, 4), before[i]);
         }
         Check.due("nothing to undo", x.undo(), -1);
         fortyAtMost();

@@ -7,7 +7,7 @@ public final class AnyCallsTest {
     private static final int[] EDGES = {Integer.MIN_VALUE, -1000000, -2, -1, 0, 1, 2, 7, 8, 23, 24, 60, 999, 1000, Integer.MAX_VALUE};
 
     public static void main(String[] args) {
-        for (int run = 0; run < 3000; run++) {
+        for (int run = 0; run < 5000; run++) {
             play(run);
         }
         Check.finish("AnyCallsTest");
@@ -27,14 +27,18 @@ public final class AnyCallsTest {
             x.text(1);
             x.law(run % 3 - 1);
         }
-        for (int i = 0; i < 300; i++) {
+        int used = 20;
+        for (int i = 0; i < 300 && used < 511; i++) {
             int which = random.nextInt(40);
-            boolean asks = which >= 16;
-            String before = asks && i % 50 == 0 ? Check.seen(x) : null;
+            // What is seen is asked in 66 calls and three for each month logged, twice.
+            boolean looks = which >= 16 && i % 20 == 19 && used + 2 * (66 + 3 * x.count(8)) + 2 < 511;
+            String before = looks ? Check.seen(x) : null;
             Check.due("run " + run + ", call " + which + " ends well", call(x, which), true);
             if (before != null) {
                 Check.same("run " + run + ", call " + which + " changes nothing", Check.seen(x), before);
+                used += 2 * (66 + 3 * x.count(8)) + 2;
             }
+            used++;
         }
     }
 

@@ -2,7 +2,7 @@ import java.util.NoSuchElementException;
 
 /**
  * What the tests share: comparing answers, feeding texts, and a fingerprint of all that can be asked.
- * Fingerprints take some runs beyond 512 calls, of which nothing is promised: this class counts no calls.
+ * No object is asked more than 512 times, as nothing is promised behind that.
  */
 final class Check {
     private static int wrong = 0;
@@ -93,7 +93,7 @@ final class Check {
         }
     }
 
-    /** All that can be seen of an object but STATUS, in about 250 calls that change nothing. */
+    /** All that can be seen of an object but STATUS, in calls that change nothing: 66 at most and three for each month logged. */
     static String seen(BuriedGoods x) {
         StringBuilder all = new StringBuilder();
         for (int what = 0; what < 10; what++) {
@@ -106,16 +106,44 @@ final class Check {
             all.append(x.damp(row)).append(' ').append(x.damps(row, -1)).append(' ');
         }
         for (int at = 0; at < 8; at++) {
-            for (int what = 0; what < 5; what++) {
+            long value = thing(x, at, 0);
+            all.append(value).append(' ');
+            for (int what = 1; what < 5 && value != THROWN; what++) {
                 all.append(thing(x, at, what)).append(' ');
             }
         }
-        for (int i = 0; i < 60; i++) {
+        int logged = x.count(8);
+        for (int i = 0; i < logged; i++) {
             for (int what = 0; what < 3; what++) {
                 all.append(x.log(i, what)).append(' ');
             }
         }
         all.append(x.fault(0)).append(' ').append(x.fault(1));
+        return all.toString();
+    }
+
+    /** What no call shows at once: the tape's text, the laws, the acts that can be undone, the image. It changes much. */
+    static String onward(BuriedGoods x) {
+        StringBuilder all = new StringBuilder();
+        for (int law = -1; law < 4; law++) {
+            all.append(x.law(law)).append(' ').append(x.damps(0, 0)).append(' ').append(x.grown(0, 2)).append(' ');
+        }
+        for (int i = 0; i < 5; i++) {
+            all.append(x.undo()).append(' ').append(standing(x));
+        }
+        all.append(x.years(1, 3L)).append(' ').append(standing(x));
+        all.append(x.back()).append(' ').append(standing(x));
+        all.append(x.text(1)).append(' ').append(x.text(0)).append(' ').append(standing(x));
+        return all.toString();
+    }
+
+    /** How it stands, in short: eight calls. */
+    static String standing(BuriedGoods x) {
+        StringBuilder all = new StringBuilder();
+        int[] asked = {x.rule(4), x.count(1), x.count(5), x.count(8), x.most(5), x.most(7), x.most(9), x.log(0, 0)};
+        for (int answer : asked) {
+            all.append(answer).append(' ');
+        }
         return all.toString();
     }
 

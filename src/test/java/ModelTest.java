@@ -13,9 +13,10 @@ public final class ModelTest {
     }
 
     private static StringBuilder text;
+    private static int calls;
 
     public static void main(String[] args) {
-        for (int run = 0; run < 1500; run++) {
+        for (int run = 0; run < 2500; run++) {
             play(run);
         }
         Check.finish("ModelTest");
@@ -148,6 +149,7 @@ public final class ModelTest {
             }
         } while (text.length() > 240);
         Check.feed(x, text.toString());
+        calls += 15;
         Check.due("law " + text, x.fault(1), -1);
         Check.due("law " + text, x.text(1), m.laws.size());
         m.laws.add(l -> {
@@ -174,7 +176,6 @@ public final class ModelTest {
     /** A field that stands: things choose other plots till they do. */
     private static void tellField(BuriedGoods x, Model m) {
         do {
-            x.end(0);
             text = new StringBuilder();
             int[] rules = {4, 3, 12, 2, 30};
             int[] damps = {3, 3, 3, 3};
@@ -212,7 +213,6 @@ public final class ModelTest {
             if (text.length() == 0 || text.length() > 240) {
                 continue;
             }
-            Check.feed(x, text.toString());
             boolean stands = told <= rules[1];
             for (int i = 0; i < things.size(); i++) {
                 int plot = things.get(i).plot;
@@ -221,8 +221,11 @@ public final class ModelTest {
                     stands &= things.get(j).plot != plot;
                 }
             }
-            Check.due("field " + text, x.fault(0), stands ? -1 : text.length());
+            Check.fault(text.toString(), 0, stands ? -1 : text.length());
             if (stands) {
+                x.end(0);
+                Check.feed(x, text.toString());
+                calls += 15;
                 Check.due("field " + text, x.text(0), things.size());
                 m.begin(rules, damps, things);
                 return;
@@ -239,8 +242,9 @@ public final class ModelTest {
     private static void play(int run) {
         BuriedGoods x = new BuriedGoods();
         Model m = new Model();
-        int calls = 0;
-        for (int i = 0; i < 160; i++) {
+        calls = 0;
+        // The last look takes 205 calls and no step more than 95: no object is asked more than 512 times.
+        for (int i = 0; i < 200 && calls < 210; i++) {
             int kind = i == 3 ? 0 : i == 5 && run % 3 > 0 ? 1 : below(44);
             if (kind == 0 && (i == 3 || below(30) == 0)) {
                 tellField(x, m);
@@ -258,8 +262,11 @@ public final class ModelTest {
             }
             calls++;
         }
+        compareCounts("run " + run, x, m);
+        compareThings("run " + run, x, m);
+        comparePlots("run " + run, x, m);
+        compareMost("run " + run, x, m);
         Check.due("calls", calls <= 512, true);
-        compare("run " + run, x, m);
     }
 
     private static void change(String where, BuriedGoods x, Model m, int kind) {
@@ -333,12 +340,21 @@ public final class ModelTest {
             }
             case 40: int c = near(0, 999); Check.due(where + " shares", x.shares(at, c), m.shares(at, c)); break;
             case 41: int k = near(0, 11); Check.due(where + " most " + k, x.most(k), m.most(k)); break;
-            default: compare(where, x, m); break;
+            default: compareOne(where, x, m); break;
         }
     }
 
-    /** All that tells how things stand. */
-    private static void compare(String where, BuriedGoods x, Model m) {
+    private static void compareOne(String where, BuriedGoods x, Model m) {
+        switch (below(6)) {
+            case 0: comparePlots(where, x, m); break;
+            case 1: case 2: compareThings(where, x, m); break;
+            case 3: compareMost(where, x, m); break;
+            default: compareCounts(where, x, m); break;
+        }
+    }
+
+    private static void compareCounts(String where, BuriedGoods x, Model m) {
+        calls += 26;
         for (int what = -1; what < 11; what++) {
             Check.due(where + " count " + what, x.count(what), m.count(what));
         }
@@ -347,15 +363,26 @@ public final class ModelTest {
             Check.due(where + " rule " + what, x.rule(what), due);
             Check.due(where + " status " + what, x.status(what), what >= 0 && what < 5 ? m.status[what] : -1);
         }
-        int[] plots = new int[26];
-        java.util.Arrays.fill(plots, -1);
+    }
+
+    private static void compareThings(String where, BuriedGoods x, Model m) {
+        calls += 60;
         for (int at = -1; at < 9; at++) {
             Model.Thing t = at >= 0 && at < 8 ? m.now.things[at] : null;
-            for (int what = -1; what < 6; what++) {
+            for (int what = 0; what < 6; what++) {
                 long due = t == null || what < 0 || what > 4 ? Check.THROWN
                     : new int[] {t.value, t.stuff, t.plot, t.lain, t.plot >= 0 && t.stake ? 1 : 0}[what];
                 Check.due(where + " thing " + at + " " + what, Check.thing(x, at, what), due);
             }
+        }
+    }
+
+    private static void comparePlots(String where, BuriedGoods x, Model m) {
+        calls += 95;
+        int[] plots = new int[26];
+        java.util.Arrays.fill(plots, -1);
+        for (int at = 0; at < 8; at++) {
+            Model.Thing t = m.now.things[at];
             if (t != null && t.plot >= 0) {
                 plots[t.plot + 1] = at;
             }
@@ -370,6 +397,10 @@ public final class ModelTest {
             int what = below(5) - 1;
             Check.due(where + " log " + i + " " + what, x.log(i, what), m.log(i, what));
         }
+    }
+
+    private static void compareMost(String where, BuriedGoods x, Model m) {
+        calls += 14;
         for (int what = -1; what < 13; what++) {
             Check.due(where + " most " + what, x.most(what), m.most(what));
         }
