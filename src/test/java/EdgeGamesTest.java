@@ -133,6 +133,9 @@ public final class EdgeGamesTest {
             safeOf(x, 0, 1);
             safeOf(x, 1, 0);
         }
+        BuriedGoods even = Check.field("tp0v1;tp1v90");
+        Check.due("five and six come to the same: the least", even.safe(0, 1, 0), 5);
+        safeOf(even, 0, 1);
         BuriedGoods x = worth(200, 0);
         Check.due("nearly always the first", x.safe(0, 1, 0), 98);
         Check.due("and what it comes to", x.safe(0, 1, 1), -10);
