@@ -1716,7 +1716,7 @@ public final class BuriedGoods {
         }
 
         private static int held(long n) {
-            return (int) Math.max(-LIMIT, Math.min(LIMIT, n));
+            return n > LIMIT ? LIMIT : n < -LIMIT ? -LIMIT : (int) n;
         }
     }
 
@@ -1791,18 +1791,20 @@ public final class BuriedGoods {
         }
 
         void pass(int at) {
+            long digit = digitOf(at);
             for (int load = 0; load < loads; load++) {
-                setMark(load, mark(load) - LEFT_OUT * digit(at));
+                setMark(load, mark(load) - LEFT_OUT * digit);
             }
         }
 
         /** Lower loads are still those without this thing, as loads are gone through falling. */
         void choose(int at, int valueLeftOut) {
+            long digit = digitOf(at);
             for (int load = loads - 1; load >= 0; load--) {
-                long best = mark(load) + SCALE * valueLeftOut - LEFT_OUT * digit(at);
+                long best = mark(load) + SCALE * valueLeftOut - LEFT_OUT * digit;
                 for (int row = 0; row < MOST_ROWS; row++) {
                     if (laidIn(row, load) > 0) {
-                        long laid = mark(load - pick(unit, row)) + SCALE * pick(gain, row) - row * digit(at);
+                        long laid = mark(load - pick(unit, row)) + SCALE * pick(gain, row) - row * digit;
                         best = Math.max(best, laid);
                     }
                 }
@@ -1832,7 +1834,7 @@ public final class BuriedGoods {
             return one > 0 && radix > 0 ? load / one % radix : 0;
         }
 
-        private static long digit(int at) {
+        private static long digitOf(int at) {
             long digit = 1;
             for (int i = at; i < PLACES - 1; i++) {
                 digit *= 10;
